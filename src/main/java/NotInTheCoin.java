@@ -650,6 +650,7 @@ public final class NotInTheCoin {
         int cheese = thing + taste / 2 - week % 3;
         int egg = cheese / 2;
         int walk = taste;
+        int song = 2 * walk - week % 2;
         switch (kind) {
             case SILVER:
                 return 6 + figure;
@@ -658,7 +659,7 @@ public final class NotInTheCoin {
             case WALK:
                 return walk;
             case SONG:
-                return Math.max(0, 2 * walk - week % 2);
+                return song < 0 ? 0 : song;
             case GRIEF:
                 return 9 - taste;
             case EGG:
@@ -1090,10 +1091,12 @@ public final class NotInTheCoin {
         }
 
         int takenFor(int p, int x) {
-            int asked = worthTo(p, x);
+            int taste = tasteOf[p];
+            int asked = worthOf(kindOf[x], figureOf[x], taste, week);
             int bits = 0;
             for (int y = 0; y < goods; y++) {
-                if (classOf[kindOf[y]] != classOf[kindOf[x]] && worthTo(p, y) >= asked) {
+                boolean same = classOf[kindOf[y]] == classOf[kindOf[x]];
+                if (!same && worthOf(kindOf[y], figureOf[y], taste, week) >= asked) {
                     bits |= 1 << y;
                 }
             }
