@@ -84,6 +84,9 @@ public final class ChainTest {
     private static void clearing() {
         NotInTheCoin x = new NotInTheCoin();
         Due.due("no loans", x.clearing(-1), 0);
+        x = Due.townOf("p5;p5;g000;g111;g121;l01;");
+        Due.due("a loan is paid but once", x.clearing(-1), 1);
+        Due.due("by the least", x.clearing(0), 1);
         x = Due.townOf("p5;p5;g000;g010;g111;g121;l01;l11;");
         Due.due("each with other goods", x.clearing(-1), 2);
         Due.due("clearing(0)", x.clearing(0), 2);
@@ -128,6 +131,7 @@ public final class ChainTest {
         Due.due("walk and grief", x.quarrel(0, 1), 1);
         Due.due("grief and walk", x.quarrel(1, 0), 1);
         Due.due("as much to one is no quarrel", x.quarrel(0, 2), 0);
+        Due.due("nor the other way", x.quarrel(2, 0), 0);
         Due.due("walk and silver", x.quarrel(0, 3), 1);
         Due.due("quarrel(0, 0)", x.quarrel(0, 0), -1);
         Due.due("quarrel(4, 0)", x.quarrel(4, 0), -1);

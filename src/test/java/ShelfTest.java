@@ -54,11 +54,13 @@ public final class ShelfTest {
         Due.due("row(0, 0, -1)", x.row(0, 0, -1), -14);
         Due.due("-1 ahead of -14", x.row(8, 0, -1), -1);
         Due.due("-1 ahead of -14", x.row(0, 3, -1), -1);
+        x.put(7, 0, 8);
         x.put(7, 5, 9);
         Due.due("what is refused changes nothing", x.row(7, 2, -1), -14);
         Due.due("element(7, 5)", Due.elementOr(x, 7, 5), 9);
         Due.due("a new row", x.row(7, 2, 50), 0);
         Due.due("0 at first", Due.elementOr(x, 7, 5), 0);
+        Due.due("0 at first", Due.elementOr(x, 7, 0), 0);
         Due.due("element(7, 50)", Due.elementOr(x, 7, 50), -2);
         x.keep(7, 1, 3, 2);
         Due.due("a row in place of a thing", x.row(7, 1, 1), 0);

@@ -15,6 +15,7 @@ public final class TellTest {
         tastesRefusals();
         two();
         twoChoices();
+        twoWorsts();
         twoRefusals();
         market();
         marketRefusals();
@@ -185,6 +186,15 @@ public final class TellTest {
         Due.due("lending is 0: no more than not", x.two(0, 1), 0);
         x = Due.townOf("p9;p1;g500;g341;");
         Due.due("the other's walk is 9 to the one, 1 to him", x.two(0, 1), 1);
+    }
+
+    private static void twoWorsts() {
+        NotInTheCoin x = Due.townOf("p5;p9;g600;g501;w02;");
+        Due.due("who lends has half of 4 besides his 3, that is more than 4", x.two(0, 1), 11);
+        x = Due.townOf("p5;p9;g600;g501;g690;g191;w02;");
+        Due.due("each lends his worst, not what is dear to him", x.two(0, 1), 11);
+        x = Due.townOf("p5;p9;g690;g191;g600;g501;w02;");
+        Due.due("nor his first", x.two(0, 1), 11);
     }
 
     private static void twoRefusals() {
