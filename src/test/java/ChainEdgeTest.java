@@ -29,6 +29,7 @@ public final class ChainEdgeTest {
         shortestThirds();
         shortestFewest();
         shortestNone();
+        shortestOfOneRowAfterTheOther();
         shortestArguments();
         shortestRefusalsInOrder();
         Due.end();
@@ -102,6 +103,8 @@ public final class ChainEdgeTest {
         Edge.leaves("1 less", Edge.town("p4;g100;g030;"), x -> x.climb(0, 0), 0);
         Edge.leaves("two steps, to its own kind", Edge.town("p4;g100;g190;g040;"), x -> x.climb(0, 0), 9);
         Edge.leaves("no second step", Edge.town("p4;g100;g190;g030;"), x -> x.climb(0, 0), 0);
+        Edge.leaves("to the first goods", Edge.town("p4;g050;g100;"), x -> x.climb(0, 1), 1);
+        Edge.leaves("to the last goods", Edge.town("p4;" + "g000;".repeat(7) + "g100;"), x -> x.climb(0, 0), 4);
         Edge.leaves("from 0 to a hen of 9", Edge.town("p0;g300;g790;"), x -> x.climb(0, 0), 17);
         Edge.leaves("by the week it is", Edge.town("p3;g400;g030;"), x -> x.climb(0, 0), 0);
         Edge.leaves("by the week it is", Edge.town("p3;g030;g400;"), x -> x.climb(0, 0), 1);
@@ -257,11 +260,28 @@ public final class ChainEdgeTest {
     }
 
     private static void shortestNone() {
-        shortest("not as itself", told(7, 7, 0), -4, -4, -4, -4, -4, -4, -4, -4, -4);
+        for (int kind = 0; kind < 8; kind++) {
+            shortest("not as itself", told(kind, kind, 0), -4, -4, -4, -4, -4, -4, -4, -4, -4);
+        }
         shortest("as itself", told(7, 7, 1), 1, 0, 0, 0, 0, 0, 0, 0, 0);
         shortest("both ways", told(0, 7, 1, 7, 0, 0), -4, -4, -4, -4, -4, -4, -4, -4, -4);
         Edge.leaves("-13 ahead of -4", told(7, 7, 0, 8, 0, 0), x -> x.shortest(5, -1), -13);
         Edge.leaves("-13 ahead of -4", told(7, 7, 0, 1), x -> x.shortest(5, -1), -13);
+    }
+
+    private static void shortestOfOneRowAfterTheOther() {
+        NotInTheCoin x = new NotInTheCoin();
+        for (int kind = 0; kind < 8; kind++) {
+            int other = (kind + 1) % 8;
+            Due.fillRow(x, 0, Due.BYTES, kind, kind, 0);
+            Due.due("not as itself", x.shortest(0, -1), -4);
+            Due.fillRow(x, 0, Due.BYTES, kind, other, 0);
+            Due.due("not as another one", x.shortest(0, -1), 2);
+            Due.fillRow(x, 0, Due.BYTES, kind, other, 1);
+            Due.due("as another one", x.shortest(0, -1), 1);
+            Due.fillRow(x, 0, Due.BYTES);
+            Due.due("nothing told", x.shortest(0, -1), 1);
+        }
     }
 
     private static void shortestArguments() {

@@ -38,6 +38,7 @@ public final class TellEdgeTest {
         judgeArguments();
         townsBySeeds();
         townsOneBehindTheOther();
+        townsFromNow();
         townsOfFew();
         townsArguments();
         Due.end();
@@ -470,6 +471,22 @@ public final class TellEdgeTest {
             long signed = x.towns(towns, 5 + Integer.MIN_VALUE, 1);
             Due.due("the sign's bit does not matter in " + n + " towns", signed, x.towns(towns, 5, 1));
         }
+    }
+
+    /** Whatever was in mind ahead of it, a town is drawn from what there is now. */
+    private static void townsFromNow() {
+        Supplier<NotInTheCoin> cheese = Edge.town("p7;p7;g240;");
+        Edge.leaves("a cheese by taste 8", cheese, x -> x.towns(1, 1, 1), 10);
+        Edge.leaves("weeks in mind", Edge.with(cheese, x -> x.openThen(1)), x -> x.towns(1, 1, 1), 10);
+        Edge.leaves("a week", Edge.with(cheese, x -> x.weeks(1)), x -> x.towns(1, 1, 1), 9);
+        Supplier<NotInTheCoin> text = Edge.with(cheese, x -> Due.due("w02;s08;", Due.tell(x, "w02;s08;"), -2004));
+        Edge.leaves("a text on trial", text, x -> x.towns(1, 1, 1), 10);
+        Supplier<NotInTheCoin> silvers = Edge.with(Edge.thingsEverywhere(Edge.town("p7;"), 1, 0), x -> {
+            for (int g = 0; g < 8; g++) {
+                x.brings(g, 0);
+            }
+        });
+        Edge.leaves("goods that came since", silvers, x -> x.towns(20, 1, 1), 960);
     }
 
     private static void townsOfFew() {

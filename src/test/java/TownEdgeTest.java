@@ -45,6 +45,7 @@ public final class TownEdgeTest {
         weeksAbove999();
         aWeekPaysByWhatIsEnough();
         aWeekPaysByWhatIsWorthLeast();
+        aWeekPaysByTheFirstAndTheLastGoods();
         aWeekGoesByNumbers();
         Due.end();
     }
@@ -507,6 +508,15 @@ public final class TownEdgeTest {
         Supplier<NotInTheCoin> griefAndWalk = Edge.town("p4;p9;g020;g301;g511;l01;");
         Edge.gives("grief, 0 to who owes, a walk is 9 to him", Edge.with(griefAndWalk, x -> x.weeks(1)),
             x -> x.person(0, 1), 4);
+    }
+
+    private static void aWeekPaysByTheFirstAndTheLastGoods() {
+        Supplier<NotInTheCoin> first = Edge.town("p4;p9;g101;g000;l11;");
+        Edge.gives("by goods 0", first, x -> x.weeks(1), 0);
+        Edge.gives("they are his then", Edge.with(first, x -> x.weeks(1)), x -> x.person(0, 1), 1);
+        Supplier<NotInTheCoin> last = Edge.town("p4;p9;" + "g000;".repeat(7) + "g101;l01;");
+        Edge.gives("by goods 7", last, x -> x.weeks(1), 0);
+        Edge.gives("they are his then", Edge.with(last, x -> x.weeks(1)), x -> x.good(7, 2), 0);
     }
 
     private static void aWeekGoesByNumbers() {
